@@ -17,6 +17,7 @@ public final class DaysTest {
         heldShipsFirst();
         heldWithManyAndGas();
         heldAsTheyWereThen();
+        allShipsAndBuyers();
         check.end();
     }
 
@@ -272,6 +273,27 @@ public final class DaysTest {
         check.due("GAS first", x.held(2), 42);
         x.day(1, 0, 0);
         check.due("SOLD then", x.held(0), NONE);
+    }
+
+    /** As many BARGAINS as a day can have: each leaves a SHIP or a BUYER with nothing, the last one both. */
+    private static void allShipsAndBuyers() {
+        CoalTurns x = new CoalTurns();
+        for (int s = 0; s < 20; s++) Check.near(x, s < 19 ? 0 : 2, 0, 100, 10);
+        for (int b = 0; b < 10; b++) x.buyer(0, 0, b < 9 ? 199 : 209, 40 - b);
+        check.due("day", x.day(1, 0, 0), 2000);
+        check.due("BARGAINS", x.count(5), 29);
+        bargainIs("the first", x, 0, 0, 0, 100, 25);
+        bargainIs("the last", x, 28, 19, 9, 100, 20);
+        check.due("no more", x.bargain(29, 0), NONE);
+        for (int s = 0; s < 20; s++) check.due("SOLD", x.about(s, 7), 3);
+        check.due("clear", x.clear(1), 70);
+        for (int s = 0; s < 20; s++) check.due("held", x.held(s), x.count(4));
+        CoalTurns one = new CoalTurns();
+        Check.near(one, 0, 0, 1, 10);
+        one.buyer(0, 0, 1, 11);
+        check.due("one measure", one.day(1, 0, 0), 1);
+        check.due("THE PRICE of one", one.count(4), 10);
+        check.due("clear one", one.clear(3), 1);
     }
 
     private static void heldAsTheyWereThen() {

@@ -15,11 +15,13 @@ public final class OrdersTest {
         ordersAreRead();
         faultsAreTold();
         faultsOfEveryPlace();
+        nothingStaysOfEarlierTapes();
         ordersAreRefused();
         laterOrdersAreInForce();
         manyByPrice();
         turnByKeys();
         turnByLot();
+        turnByLotOfTwenty();
         lateOnesStandBehind();
         gasOnesStandBehindMany();
         check.end();
@@ -99,6 +101,22 @@ public final class OrdersTest {
                 }
             }
         }
+    }
+
+    private static void nothingStaysOfEarlierTapes() {
+        CoalTurns x = new CoalTurns();
+        Check.near(x, 0, 0, 10, 30);
+        x.day(1, 0, 1);
+        Check.near(x, 0, 0, 10, 20);
+        x.day(1, 0, 1);
+        check.due("faulty", Check.order(x, "turn ask;sell 12 at <999,34 at <99,x", 0), -45);
+        check.due("shorter", Check.order(x, "turn entry;sell 2", 0), 0);
+        check.due("no PARTS of the faulty one", x.many(0, 5), 2);
+        turnIs("nor its KEY", x, 0, 1);
+        check.due("longer", Check.order(x, "turn ask;sell 12", 0), 1);
+        check.due("shorter", Check.order(x, "turn ask;sell 1", 0), 2);
+        check.due("no digits of the longer one", x.many(2, 5), 1);
+        check.due("ends too early", Check.order(x, "turn a", 0), -16);
     }
 
     private static void faultOf(String text) {
@@ -200,6 +218,23 @@ public final class OrdersTest {
         x.day(1, 0, 1);
         // day 2: 10 17 1 8 15
         turnIs("lot of day 2", x, 2, 3, 0, 4, 1);
+    }
+
+    private static void turnByLotOfTwenty() {
+        CoalTurns x = new CoalTurns();
+        for (int s = 0; s < 20; s++) Check.near(x, s % 2, 0, 10, 10);
+        Check.order(x, "turn lot;sell 99", 0);
+        for (int day = 1; day <= 40; day++) {
+            x.day(1, 0, 1);
+            int at = 0;
+            for (int lot = 0; lot < 23; lot++) {
+                for (int s = 0; s < 20; s++) {
+                    if ((7 * s + 5 * day - lot) % 23 == 0) check.due("lot of day " + day, x.turn(at++), s);
+                }
+            }
+            check.due("all 20", at, 20);
+            check.due("turn(20)", x.turn(20), NONE);
+        }
     }
 
     private static void lateOnesStandBehind() {

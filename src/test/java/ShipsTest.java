@@ -155,6 +155,8 @@ public final class ShipsTest {
         check.due("want without", x.want(0, -1, 0), NONE);
         x.buyer(0, 0, 100, 50);
         Check.near(x, 0, 0, 30, 40);
+        check.due("buyer -1", x.want(-1, 5, 50), NONE);
+        check.due("buyer 1", x.want(1, 5, 50), NONE);
         check.due("want -1", x.want(0, -1, 50), BAD);
         check.due("want 2001", x.want(0, 2001, 50), BAD);
         check.due("bid 0", x.want(0, 5, 0), BAD);

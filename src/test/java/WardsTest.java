@@ -12,6 +12,7 @@ public final class WardsTest {
         triedIsRefused();
         triedDays();
         triedOrders();
+        triedGoesOnFromNow();
         triedLacks();
         triedChangesNothing();
         countsTell();
@@ -60,6 +61,8 @@ public final class WardsTest {
         check.due("most", x.weighed(0, 2, 56, 1), 280);
         check.due("k most", x.weighed(0, Integer.MAX_VALUE, 0, 0), BAD);
         check.due("weight without any", x.weighed(0, 0, 1, 0), BAD);
+        x.measure(24, 24);
+        check.due("k -1 of one weight", x.weighed(0, -1, -24, 0), BAD);
     }
 
     private static void wardsTell() {
@@ -138,6 +141,38 @@ public final class WardsTest {
         check.due("one of later days", x.tried(2, 9, 1, 0, 1), 0);
         check.due("on all of them", x.tried(0, 3, 1, 0, 1), 30);
         check.due("THE PRICE at the end", x.tried(0, 3, 1, 0, 0), 40);
+    }
+
+    private static void triedGoesOnFromNow() {
+        CoalTurns x = new CoalTurns();
+        Check.near(x, 0, 0, 10, 20);
+        x.ship(0, 0, 10, 30, 0, 2);
+        x.buyer(0, 0, 0, 50);
+        Check.order(x, "turn ask;sell 1 at <30,9 at >39,1", 0);
+        Check.order(x, "turn entry;sell 1", 3);
+        x.day(1, 0, 0);
+        x.day(1, 0, 0);
+        check.due("LATE", x.about(0, 7), 2);
+        x.want(0, 5, 50);
+        check.due("LATE ones are behind", x.tried(-1, 1, 0, 0, 0), 40);
+        check.due("MANY by the trial's PRICE", x.tried(0, 2, 0, 0, 1), 5);
+        x.want(0, 15, 50);
+        // 10 at 40, by which both may sell: then 5 at 35
+        check.due("THE PRICE of the second day", x.tried(0, 2, 0, 0, 0), 35);
+        check.due("THE PRICE as it is", x.tried(0, 1, 0, 0, 0), 40);
+        x.want(0, 10, 50);
+        x.day(0, 0, 0);
+        check.due("THE PRICE", x.count(4), 40);
+        check.due("none sold: THE PRICE stays", x.tried(-1, 9, 0, 0, 0), 40);
+        CoalTurns once = new CoalTurns();
+        Check.near(once, 0, 0, 10, 20);
+        Check.near(once, 0, 1, 10, 30);
+        once.buyer(0, 1, 4, 40);
+        Check.order(once, "turn ask;sell 1", 0);
+        once.day(1, 0, 0);
+        check.due("MISSED once before", once.tried(-1, 1, 0, 0, 1), 0);
+        check.due("LATE behind the first DAY", once.tried(-1, 2, 0, 0, 1), 4);
+        check.due("not LATE now", once.about(0, 7), 1);
     }
 
     private static void triedLacks() {
