@@ -170,8 +170,8 @@ public final class WardsTest {
         once.buyer(0, 1, 4, 40);
         Check.order(once, "turn ask;sell 1", 0);
         once.day(1, 0, 0);
-        check.due("MISSED once before", once.tried(-1, 1, 0, 0, 1), 0);
         check.due("LATE behind the first DAY", once.tried(-1, 2, 0, 0, 1), 4);
+        check.due("MISSED once before", once.tried(-1, 1, 0, 0, 1), 0);
         check.due("not LATE now", once.about(0, 7), 1);
     }
 
