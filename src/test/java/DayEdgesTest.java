@@ -485,11 +485,10 @@ public final class DayEdgesTest {
         x.day(1, 0, 0);
         check.due("R4 of each SHIP, not of each BARGAIN", x.clear(1), 2);
         CoalTurns two = new CoalTurns();
-        for (int s = 0; s < 3; s++) Check.near(two, PLAIN, 0, 31, 10);
-        for (int b = 0; b < 9; b++) two.buyer(0, 0, 8, 10);
+        for (int s = 0; s < 2; s++) Check.near(two, PLAIN, 0, 10, 10);
+        for (int b = 0; b < 4; b++) two.buyer(0, 0, 5, 10);
         two.day(1, 0, 0);
-        check.due("R4 31 and 31 and 10, in many BARGAINS", two.clear(1), 4 + 4 + 1);
-        check.due("R4 31 and 31 and 10, with 3", two.clear(3), 4);
+        check.due("R4 of each of two SHIPS, in two BARGAINS each", two.clear(1), 2);
         CoalTurns part = pair(400, 10, 11, 10);
         part.day(1, 0, 0);
         check.due("R4 of what it sold, not of its LOAD", part.clear(1), 2);

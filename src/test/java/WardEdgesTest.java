@@ -326,6 +326,13 @@ public final class WardEdgesTest {
         x.day(0, 0, 0);
         check.due("R4 now it is", x.about(1, 7), 2);
         check.due("R4 one that is LATE is LATE in the trial", x.tried(-1, 1, 0, 0, 0), 40);
+        CoalTurns once = new CoalTurns();
+        Check.near(once, PLAIN, 0, 10, 20);
+        Check.near(once, PLAIN, 1, 10, 30);
+        once.buyer(0, 1, 4, 40);
+        Check.order(once, "turn ask;sell 1", 0);
+        once.day(1, 0, 0);
+        check.due("R4 what it MISSED before the trial counts", once.tried(-1, 2, 0, 0, 1), 4);
     }
 
     private static void triedPrice() {
